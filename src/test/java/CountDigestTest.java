@@ -8,6 +8,8 @@ public final class CountDigestTest {
         digestOf("one", Told.of("c4;h5", "01a", "12"));
         digestOf("faulty", Told.of("c4;h", "01a;", "12x"));
         digestOf("many", many());
+        digestOf("one that spares two events", sparing());
+        digestOf("one whose twentieth lot tells", byLots());
         due.end();
     }
 
@@ -43,6 +45,29 @@ public final class CountDigestTest {
         x.seen(3, 7, x.at(3, 7, 0));
         x.seen(12, 1, x.at(12, 1, 0));
         return x;
+    }
+
+    /** Here no two answers beside one another in a digest are alike by accident. */
+    private static LilyQuarrels sparing() {
+        LilyQuarrels x = Told.of("c5;c9;h2;c1;h6", "10m;44j;01s;41r;41e", "121000001000010100200000");
+        events(x, new int[][] {{1, 21}, {1, 20}, {1, 3}, {1, 22}, {1, 8}, {0, 13}});
+        due.same("two to spare", x.spare(-1), 2);
+        due.yes("a monday of its own", x.monday(0) != 0 && x.monday(0) != x.monday(1));
+        return x;
+    }
+
+    private static LilyQuarrels byLots() {
+        LilyQuarrels x = Told.of("h2;h5;h1;h7;h5;h8;h5;h3", "30o;72l;03h;52m;56d;50f;34b;30b", "");
+        events(x, new int[][] {{1, 16}, {1, 9}, {0, 21}, {1, 18}, {0, 11}, {1, 10}, {0, 21}, {1, 17}});
+        due.yes("the twentieth lot", x.years(7, 20, 0) != x.years(7, 19, 0));
+        due.same("eight quarrels", x.count(1), 8);
+        return x;
+    }
+
+    private static void events(LilyQuarrels x, int[][] all) {
+        for (int[] e : all) {
+            x.event(e[0], e[1]);
+        }
     }
 
     /** Longs that are gathered in the order that the document tells, from the other calls' answers. */

@@ -82,6 +82,7 @@ public final class PlansTest {
         x.event(0, 0);
         x.event(1, 23);
         due.same("one", x.spare(-1), 1);
+        due.same("the event is still there", x.peace(), 0);
         due.same("which", x.spare(0), 1);
         due.same("no second", x.spare(1), -1);
         x.event(0, 5);
@@ -138,8 +139,10 @@ public final class PlansTest {
             x.chance(7, 1, what);
             x.years(9, 11, what);
         }
+        x.chin(0, 0);
         x.never();
         x.ask(3);
+        due.same("first of an uneven number of chins", x.quarrel(0, 0), 0);
         due.same("first stays", x.quarrel(2, 0), 3);
         due.same("day stays", x.quarrel(2, 2), 3);
         due.same("temper stays", x.person(3, 1), 1);

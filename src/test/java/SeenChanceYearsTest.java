@@ -9,6 +9,7 @@ public final class SeenChanceYearsTest {
         sorts();
         tempers();
         ask();
+        askOfAllTempers();
         chance();
         chanceOfAll();
         years();
@@ -92,6 +93,10 @@ public final class SeenChanceYearsTest {
         due.same("the hard one", x.ask(1), 8);
         due.same("the carter", x.ask(0), 9);
         due.same("one in no quarrel", x.ask(2), 0);
+        LilyQuarrels y = Told.of("h9;c9;m1", "02a;01d", "");
+        y.seen(23, 2, 1);
+        due.same("any of nine tempers of the mild one", y.was(2, 1), 1022);
+        due.same("no day tells more", y.ask(2), 0);
         x.seen(23, 1, 4);
         due.same("seven or eight blows: like gold until", x.ask(1), 0);
         x.forget();
@@ -106,6 +111,15 @@ public final class SeenChanceYearsTest {
         due.same("nothing is possible", x.ask(0), 0);
         due.same("ask -1", x.ask(-1), -2);
         due.same("ask 3", x.ask(3), -2);
+    }
+
+    /** Gold behind day 16: 0 by 3 tempers, 1 by 2, 2 by 4; behind day 18: 0 by 3, 1 by 2, 2 by 2, 3 by 2. */
+    private static void askOfAllTempers() {
+        LilyQuarrels x = Told.of("h7;h2", "01j", "");
+        x.event(0, 15);
+        due.same("four alike are more than three", x.ask(0), 18);
+        x = Told.of("h9;c7", "01h", "");
+        due.same("a gold of 9 by any temper", x.ask(1), 0);
     }
 
     private static void fraction(LilyQuarrels x, int c, int quarrel, long above, long below) {

@@ -188,6 +188,7 @@ public final class SheetsTest {
         }
         x.sheet(3, 2, 5);
         due.same("as many as there are", x.write(1, 3), 5);
+        due.same("the hard one on day 0", x.get(3, 2, 0), 1);
         due.same("the hard one", x.get(3, 2, 4), 3);
         x.sheet(3, 2, 0);
         due.same("none", x.write(1, 3), 0);

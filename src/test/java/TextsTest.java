@@ -193,6 +193,10 @@ public final class TextsTest {
         due.same("quarrel what 3", x.quarrel(0, 3), -2);
         x.undo(1);
         due.same("quarrel of a faulty text", x.quarrel(0, 0), -2);
+        x = Told.of("", "01a;01b;01c;01d;01e;01f;01g;01h", "");
+        due.same("eight", x.count(1), 8);
+        due.same("the eighth", x.quarrel(7, 2), 7);
+        due.same("no ninth", x.quarrel(8, 2), -2);
     }
 
     private static void glass() {
