@@ -7,7 +7,7 @@ public final class LilyQuarrels {
     private static final int PEOPLE_TEXT = 0, QUARRELS_TEXT = 1, GLASS_TEXT = 2, TEXTS = 3;
     private static final int MOST_PEOPLE = 8, MOST_QUARRELS = 8, MOST_EVENTS = 8, MOST_SEEN = 8;
     private static final int DAYS = 24, LAST_DAY = 23;
-    private static final int CARTER = 0, MILD = 1, HARD = 2, SORTS = 3;
+    private static final int CARTER = 0, MILD = 1, HARD = 2;
     private static final int LEAST_TEMPER = 1, MOST_TEMPER = 9;
     private static final int RAIN = 0, FROST = 1;
     private static final int MOST_STOCK = 20, MOST_GOLD = 9, MOST_HEAT = 18;
@@ -332,7 +332,8 @@ public final class LilyQuarrels {
         if (!isBelow(person, hill.people) || !isBelow(what, 2)) {
             return BAD;
         }
-        return what == 0 ? possibleSorts(person) : possibleTempers(person);
+        return what == 0 ? fittingValues(hill.sort, person, CARTER, HARD)
+                : fittingValues(hill.temper, person, LEAST_TEMPER, MOST_TEMPER);
     }
 
     public int ask(int person) {
@@ -619,31 +620,18 @@ public final class LilyQuarrels {
         return NONE;
     }
 
-    private int possibleSorts(int person) {
-        int own = hill.sort[person];
+    /** The values of a person, in a row of the hill, by which all comes out as seen, as bits. */
+    private int fittingValues(int[] row, int person, int least, int most) {
+        int own = row[person];
         int bits = 0;
-        for (int sort = 0; sort < SORTS; sort++) {
-            hill.sort[person] = sort;
+        for (int value = least; value <= most; value++) {
+            row[person] = value;
             trial.runAnew();
             if (sightings.fit(trial)) {
-                bits |= 1 << sort;
+                bits |= 1 << value;
             }
         }
-        hill.sort[person] = own;
-        return bits;
-    }
-
-    private int possibleTempers(int person) {
-        int own = hill.temper[person];
-        int bits = 0;
-        for (int temper = LEAST_TEMPER; temper <= MOST_TEMPER; temper++) {
-            hill.temper[person] = temper;
-            trial.runAnew();
-            if (sightings.fit(trial)) {
-                bits |= 1 << temper;
-            }
-        }
-        hill.temper[person] = own;
+        row[person] = own;
         return bits;
     }
 
