@@ -49,6 +49,9 @@ public final class PlansTest {
         x = Told.of("h9;h9", "01a", NO_LILIES);
         due.same("never: the least", x.dawn(0, 0), 0);
         due.same("never: none", x.dawn(0, 1), 0);
+        LilyQuarrels y = Told.of("h9;h9;h1;h1", "01a;23w", LATE_LILIES);
+        due.same("whenever it begins it takes a lily", y.dawn(0, 0), 0);
+        due.same("it must begin", y.dawn(0, 1), 0);
         due.same("dawn -1", x.dawn(-1, 0), -2);
         due.same("dawn 1", x.dawn(1, 0), -2);
         due.same("dawn what -1", x.dawn(0, -1), -2);
