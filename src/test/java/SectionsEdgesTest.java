@@ -359,10 +359,7 @@ public final class SectionsEdgesTest {
     private static void yearsNoneAndAll() {
         LilyQuarrels x = Told.of(EIGHT_HARD, "01a;23a;45a;67a", NO_LILIES);
         LilyQuarrels three = Told.of(EIGHT_HARD, "01a;23a;45a;67a", "");
-        int gold = 0;
-        for (int person = 0; person < 8; person++) {
-            gold += three.at(23, person, 0);
-        }
+        int gold = Told.allGold(three);
         due.same("no lots: 3 on every day", x.years(5, 0, 1), gold);
         due.same("no lots: ended", x.years(5, 0, 0), Integer.bitCount(three.peace()));
         due.same("no lots: any seed", x.years(-5, 0, 1), gold);
@@ -380,25 +377,11 @@ public final class SectionsEdgesTest {
         for (int seed = 0; seed < 40; seed++) {
             LilyQuarrels x = Told.of(EIGHT_HARD, late, "");
             for (int n = 23; n <= 24; n++) {
-                LilyQuarrels y = Told.of(EIGHT_HARD, late, lots(seed, n));
-                int gold = 0;
-                for (int person = 0; person < 8; person++) {
-                    gold += y.at(23, person, 0);
-                }
-                due.same("gold by seed " + seed + " and " + n, x.years(seed, n, 1), gold);
+                LilyQuarrels y = Told.of(EIGHT_HARD, late, Told.lots(seed, n));
+                due.same("gold by seed " + seed + " and " + n, x.years(seed, n, 1), Told.allGold(y));
             }
             differ += x.years(seed, 23, 1) != x.years(seed, 24, 1) ? 1 : 0;
         }
         due.yes("the 24th lot tells", differ > 0);
-    }
-
-    private static String lots(int seed, int n) {
-        StringBuilder figures = new StringBuilder();
-        long s = seed;
-        for (int i = 0; i < n; i++) {
-            s = 1103515245L * s + 12345L & 0xffffffffL;
-            figures.append((s >> 16) % 10);
-        }
-        return figures.toString();
     }
 }

@@ -178,13 +178,9 @@ public final class SeenChanceYearsTest {
                 x.event(0, 6);
                 int ended = x.years(seed, n, 0);
                 int gold = x.years(seed, n, 1);
-                Told.retype(x, 2, lots(seed, n));
-                int all = 0;
-                for (int person = 0; person < 5; person++) {
-                    all += x.at(23, person, 0);
-                }
+                Told.retype(x, 2, Told.lots(seed, n));
                 due.same("years ended " + seed + " " + n, ended, Integer.bitCount(x.peace()));
-                due.same("years gold " + seed + " " + n, gold, all);
+                due.same("years gold " + seed + " " + n, gold, Told.allGold(x));
             }
         }
         LilyQuarrels x = new LilyQuarrels();
@@ -192,15 +188,5 @@ public final class SeenChanceYearsTest {
         due.same("n 25", x.years(0, 25, 0), -2);
         due.same("what -1", x.years(0, 0, -1), -2);
         due.same("what 2", x.years(0, 0, 2), -2);
-    }
-
-    private static String lots(int seed, int n) {
-        StringBuilder figures = new StringBuilder();
-        long s = seed & 0xffffffffL;
-        for (int i = 0; i < n; i++) {
-            s = (1103515245L * s + 12345L) & 0xffffffffL;
-            figures.append(s / 65536 % 10);
-        }
-        return figures.toString();
     }
 }
