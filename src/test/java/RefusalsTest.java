@@ -81,14 +81,21 @@ public final class RefusalsTest {
             bad("undo", x -> x.undo(b));
             bad("fault", x -> x.fault(b));
             bad("person", x -> x.person(b, 0));
+            bad("person what", x -> x.person(0, b));
             bad("quarrel", x -> x.quarrel(b, 0));
+            bad("quarrel what", x -> x.quarrel(0, b));
             bad("glass", x -> x.glass(b));
             bad("event kind", x -> x.event(b, 0));
             bad("event day", x -> x.event(0, b));
             bad("read", x -> x.read(b));
-            bad("stands", x -> x.stands(b, 0, 0));
-            bad("at", x -> x.at(0, b, 0));
-            bad("stock", x -> x.stock(b, 0));
+            bad("stands day", x -> x.stands(b, 0, 0));
+            bad("stands quarrel", x -> x.stands(0, b, 0));
+            bad("stands what", x -> x.stands(0, 0, b));
+            bad("at day", x -> x.at(b, 0, 0));
+            bad("at person", x -> x.at(0, b, 0));
+            bad("at what", x -> x.at(0, 0, b));
+            bad("stock day", x -> x.stock(b, 0));
+            bad("stock what", x -> x.stock(0, b));
             bad("over", x -> x.over(b));
             bad("mist", x -> x.mist(b));
             bad("chin quarrel", x -> x.chin(b, 0));
@@ -104,6 +111,7 @@ public final class RefusalsTest {
             bad("ask", x -> x.ask(b));
             onFullHill("chance c", x -> x.chance(b, 0, 0), BAD_LONG, NO_FINDING);
             onFullHill("chance quarrel", x -> x.chance(5, b, 0), BAD_LONG, NO_FINDING);
+            onFullHill("chance what", x -> x.chance(5, 0, b), BAD_LONG, NO_FINDING);
             bad("years n", x -> x.years(7, b, 0));
             bad("years what", x -> x.years(7, 20, b));
             bad("sheet which", x -> x.sheet(b, 0, 1));
@@ -119,7 +127,8 @@ public final class RefusalsTest {
             bad("write sheet", x -> x.write(0, b));
             bad("count", x -> x.count(b));
         }
-        bad("spare", x -> x.spare(2));
+        bad("spare above", x -> x.spare(2));
+        bad("spare below", x -> x.spare(-2));
         bad("sheet of 61", x -> x.sheet(0, 0, 61));
     }
 
