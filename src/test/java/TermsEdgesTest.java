@@ -460,6 +460,22 @@ public final class TermsEdgesTest {
         due.same("heat is left", x.stands(8, 0, 1), 9);
     }
 
+    /** "or one of both has a GOLD of 9": on a mild one's turn too, though there is no BLOW; not if it is washed off */
+    private static void goldOfNineEndsOnTheTurnOfOneWhoIsMild() {
+        LilyQuarrels x = Told.of("c9;h9;m9", "10a;20a", "");
+        due.same("8 goes on", x.stands(7, 1, 0), 1);
+        due.same("the other quarrel", x.over(0), 8);
+        due.same("golden ahead of the mild one's turn", x.over(1), 8);
+        due.same("heat is left", x.stands(8, 1, 1), 9);
+        due.same("without a blow", x.stands(8, 1, 2), 0);
+        Told.retype(x, 1, "20a;10a");
+        due.same("golden behind the mild one's turn", x.stands(8, 0, 0), 1);
+        due.same("then on the next day", x.over(0), 9);
+        due.same("one heat less", x.stands(9, 0, 1), 8);
+        x.event(0, 9);
+        due.same("washed ahead of it, till no heat is left", x.over(0), 17);
+    }
+
     // ---- Terms: fractions, lots, sheets, findings
 
     /** "FRACTIONS are told in lowest terms, above and below (0 by 1)" */
